@@ -145,7 +145,9 @@ final class AheadTest {
         RadioBeacons x = Check.of(Scenes.PAIR);
         Check.same("32: a", 4, x.sendsIn(0));
         Check.same("32: b, whose sending ends by that", 7, x.sendsIn(1));
-        x.run(4);
+        x.run(3);
+        Check.same("32: in the next slot", 1, x.sendsIn(0));
+        x.run(1);
         Check.same("32: now", 0, x.sendsIn(0));
         x.run(1);
         Check.same("32: its next one", 11, x.sendsIn(0));

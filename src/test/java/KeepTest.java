@@ -54,6 +54,13 @@ final class KeepTest {
         RadioBeacons z = Check.of(Scenes.HIDDEN);
         z.run(9);
         Check.same("43: knows two, by number", " +a +b\n", Check.reportOf(z).substring(Check.reportOf(z).length() - 7));
+        RadioBeacons w = Check.of("beacon a every 9 energy 1;beacon b every 9 energy 10;beacon c every 9 energy 101;"
+                + "beacon d every 9 energy 990;");
+        Check.same("43: numbers", "a sleeps 0 1\nb sleeps 0 10\nc sleeps 0 101\nd sleeps 0 990\n", Check.reportOf(w));
+        w.charge(3, 10);
+        w.charge(2, 999);
+        Check.same("43: longer numbers", "a sleeps 0 1\nb sleeps 0 10\nc sleeps 0 1100\nd sleeps 0 1000\n",
+                Check.reportOf(w));
         Check.same("43: no beacons", 0, new RadioBeacons().report());
     }
 

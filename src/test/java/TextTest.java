@@ -83,6 +83,10 @@ final class TextTest {
         x.save();
         x.run(40);
         x.report();
+        // what was looked at ahead leaves nothing behind in what is read
+        x.stateIn(0, 200);
+        Check.fill(x, "beacon yy every 5;seed 3;seed 3;");
+        Check.argument("4: nor does a text with an error", () -> x.readText());
         Check.fill(x, "beacon zz every 50;");
         Check.same("4: how many beacons", 1, x.readText());
         int[] due = {1, 0, 0, 3, 99, 0, 0, 0, 0, 1, 0};
@@ -102,9 +106,30 @@ final class TextTest {
         Check.same("4: costs are replaced", 4, x.beacon(0, 13));
         Check.same("4: what is saved stays", 0, x.restore());
         Check.same("4: what is saved stays, beacons", 2, x.setting(0));
+        for (int k = 0; k < 2; k++) {
+            Check.fill(x, "costs 1 1 1 1;seed 4;tries 4;memory 4;beacon zz every 50 at 49 energy 3;");
+            Check.same("4: the same text once more", 1, x.readText());
+            Check.same("4: out ahead", 3, x.outIn(0));
+            x.run(2);
+        }
+        aFreshRow();
         Check.fill(x, "");
         Check.same("4: an empty text", 0, x.readText());
         Check.same("4: an empty text, beacons", 0, x.setting(0));
+    }
+
+    /** Of all that became of a beacon of the text before, nothing is left for one of the next text. */
+    private static void aFreshRow() {
+        String text = "beacon z every 99 at 98;beacon y every 99 at 98;";
+        String due = KeepTest.all(Check.of(text));
+        // behind some of these slots they listen, wait, send, have heard, failed, given up and skipped
+        for (int slots = 0; slots <= 31; slots++) {
+            RadioBeacons x = Check.of(Scenes.PAIR);
+            x.stateIn(0, slots);
+            Check.fill(x, text);
+            x.readText();
+            Check.same("4: fresh beacons, " + slots, due, KeepTest.all(x));
+        }
     }
 
     private static void settings() {
@@ -173,6 +198,12 @@ final class TextTest {
         flaw(";", 1, 0);
         flaw("foo 3;", 1, 0);
         flaw("7;", 1, 0);
+        flaw("xeed 1;", 1, 0);
+        flaw("see 1;", 1, 0);
+        flaw("seeds 1;", 1, 0);
+        flaw("beacon a xvery 9;", 1, 9);
+        flaw("beacon a everx 9;", 1, 9);
+        flaw("beacon a every 9 xt 1;", 1, 17);
         flaw("seed", 1, 4);
         flaw("seed  \n", 1, 7);
         flaw("seed 1", 1, 6);
