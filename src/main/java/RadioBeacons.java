@@ -391,9 +391,10 @@ public final class RadioBeacons {
 
     public int bestAt(int beacon) throws IndexOutOfBoundsException {
         requireBeacon(beacon);
+        int period = now.beacons[beacon].period;
         int best = NONE;
         int fewest = 0;
-        for (int at = 0; at < now.beacons[beacon].period; at++) {
+        for (int at = 0; at < period; at++) {
             trial.copyFrom(now);
             trial.beacons[beacon].firstWake = at;
             trial.pass(TRIED_AHEAD);
@@ -407,9 +408,10 @@ public final class RadioBeacons {
 
     public int bestEvery(int beacon) throws IndexOutOfBoundsException {
         requireBeacon(beacon);
+        int least = Math.max(LEAST_PERIOD, now.beacons[beacon].firstWake + 1);
         int best = NONE;
         int most = 0;
-        for (int period = MOST_PERIOD; period > now.beacons[beacon].firstWake && period >= LEAST_PERIOD; period--) {
+        for (int period = MOST_PERIOD; period >= least; period--) {
             trial.copyFrom(now);
             trial.beacons[beacon].period = period;
             trial.pass(TRIED_AHEAD);
@@ -1076,7 +1078,8 @@ public final class RadioBeacons {
             error = 0;
             errorAt = NONE;
             int at = 0;
-            while (at < length) {
+            // each turn takes a byte at least
+            for (int turns = 0; turns < MOST_BYTES && at < length; turns++) {
                 if (isLetter(bytes[at])) {
                     at = addWord(bytes, at, length);
                 } else if (isDigit(bytes[at])) {

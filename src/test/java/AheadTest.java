@@ -219,6 +219,9 @@ final class AheadTest {
             }
             Check.same("34: beacon " + b, best, x.bestAt(b));
         }
+        for (int seed : new int[] {895, 573}) {
+            hundredSlotsOfAt(seed);
+        }
         Check.same("34: all the same", 0, Check.of("beacon a every 9 at 7;").bestAt(0));
         RadioBeacons x = Check.of(Scenes.HIDDEN);
         Check.same("34: with 1 they collide, with 0 they do not in 20 slots", true, x.bestAt(0) != 1);
@@ -226,7 +229,74 @@ final class AheadTest {
         Check.index("34: negative", () -> x.bestAt(-1));
     }
 
+    /** Texts of which 99 slots or 101 slots would give another answer than 100. */
+    private static void hundredSlotsOfAt(int seed) {
+        RadioBeacons x = Check.of(seed == 895
+                ? "seed 895;beacon a every 11 listens 3 sends 2;beacon b every 3 listens 1 sends 3;"
+                + "beacon c every 9 listens 1 sends 2;beacon d every 6 listens 3 sends 2;beacon e every 5;"
+                + "beacon f every 4 listens 1 sends 1;beacon g every 6 listens 3 sends 2;near b a;near c b;near d b;near e a;"
+                + "near e c;near f a;near f b;near f d;near f e;near g a;near g c;near g e;"
+                : "seed 573;beacon a every 6;beacon b every 7 listens 5 sends 1;beacon c every 8 listens 1 sends 3;"
+                + "beacon d every 13 listens 5 sends 3;beacon e every 14 listens 5 sends 1;"
+                + "beacon f every 7 listens 2 sends 3;beacon g every 8 listens 2 sends 3;near b a;near c a;near c b;"
+                + "near d b;near e a;near f a;near f e;near g b;near g c;near g e;");
+        int[] fewest = {Integer.MAX_VALUE, Integer.MAX_VALUE, Integer.MAX_VALUE};
+        int[] best = {RadioBeacons.NONE, RadioBeacons.NONE, RadioBeacons.NONE};
+        for (int at = 0; at < x.beacon(0, 0); at++) {
+            x.setAt(0, at);
+            for (int k = 0; k < 3; k++) {
+                if (x.collisionsIn(99 + k) < fewest[k]) {
+                    fewest[k] = x.collisionsIn(99 + k);
+                    best[k] = at;
+                }
+            }
+            x.undo();
+        }
+        Check.same("34: in 100 slots, seed " + seed, best[1], x.bestAt(0));
+        Check.same("34: not in 99 or 101, seed " + seed, true, best[0] != best[1] && best[1] != best[2]);
+    }
+
+    /** The period for which the most go well in some slots, tried one by one. */
+    private static int bestPeriod(String text, int firstWake, int slots) {
+        int best = RadioBeacons.NONE;
+        int most = -1;
+        for (int period = Math.max(2, firstWake + 1); period <= 99; period++) {
+            RadioBeacons x = Check.of(text.replace("EVERY", "every " + period + " at " + firstWake));
+            int well = x.run(slots - 9) + x.run(9);
+            if (well >= most) {
+                best = period;
+                most = well;
+            }
+        }
+        return best;
+    }
+
+    private static void hundredSlotsOfEvery() {
+        String[] texts = {
+            "seed 22;beacon a EVERY;beacon b every 3;beacon c every 13 listens 5;near a c;near b c;",
+            "seed 75;beacon a EVERY;beacon b every 2;beacon c every 12 listens 5;near a c;near b c;",
+            "seed 58;beacon a EVERY;beacon b every 3;beacon c every 2 listens 5;near a c;near b c;",
+        };
+        for (String text : texts) {
+            int best = bestPeriod(text, 0, 100);
+            Check.same("35: in 100 slots", best, Check.of(text.replace("EVERY", "every 9")).bestEvery(0));
+            Check.same("35: not in 99", true, best != bestPeriod(text, 0, 99));
+            Check.same("35: not in 101", true, best != bestPeriod(text, 0, 101));
+        }
+        // timers as often as every 11 or 3 slots would be better still, were they above the first wake
+        String[] others = {
+            "seed 81;beacon a EVERY;beacon b every 3;beacon c every 13 listens 5;near a c;near b c;",
+            "seed 41;beacon a EVERY;beacon b every 6;beacon c every 3 listens 5;near a c;near b c;",
+        };
+        int[] firstWakes = {11, 3};
+        for (int k = 0; k < 2; k++) {
+            RadioBeacons x = Check.of(others[k].replace("EVERY", "every 99 at " + firstWakes[k]));
+            Check.same("35: above its first wake", bestPeriod(others[k], firstWakes[k], 100), x.bestEvery(0));
+        }
+    }
+
     private static void bestEvery() {
+        hundredSlotsOfEvery();
         String text = Scenes.PAIR + "beacon c every 7 at 6;near a c;";
         for (int b = 0; b < 3; b++) {
             RadioBeacons x = Check.of(text);
