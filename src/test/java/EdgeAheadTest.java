@@ -26,6 +26,8 @@ final class EdgeAheadTest {
         wellInOneTo300();
         bestAtFromTheFirstToTheLast();
         bestAtTheLowestOfSeveral();
+        bestAtIn100Slots();
+        bestEveryIn100Slots();
         bestEveryFromTheLeastToTheMost();
         bestEveryTheGreatestOfSeveral();
         bestsOfOneThatIsOut();
@@ -57,11 +59,20 @@ final class EdgeAheadTest {
                 run.run(start);
             }
             int collisions = run.setting(7);
+            // in three parts, so that no object is asked more than 512 times
             for (int slots = 1; slots <= 200; slots++) {
+                if (slots == 70 || slots == 140) {
+                    asked = Check.of(LIVELY);
+                    Check.pass(asked, start);
+                }
                 run.run(1);
                 int b = slots % 5;
+                // each is asked behind another number of slots, which leaves nothing behind
+                asked.collisionsIn(200 - slots);
                 Check.same("26: in " + slots, run.beacon(b, 5), asked.stateIn(b, slots));
+                asked.stateIn(b, 200 - slots);
                 Check.same("27: in " + slots, run.beacon(b, 4), asked.energyIn(b, slots));
+                asked.energyIn(b, 200 - slots);
                 Check.same("28: in " + slots, run.setting(7) - collisions, asked.collisionsIn(slots));
             }
         }
@@ -248,21 +259,64 @@ final class EdgeAheadTest {
         bestAt("seed 5;beacon a every 7 listens 1 sends 2;beacon b every 10" + TO_C + "9 listens 5;near a c;near b c;", 1);
     }
 
-    private static void bestEvery(String text, int due) {
-        RadioBeacons x = Check.of(text);
+    /** Texts of which 99 slots or 101 slots would give another answer than 100. */
+    private static void bestAtIn100Slots() {
+        String[] texts = {"seed 895;beacon a every 11 listens 3 sends 2;beacon b every 3 listens 1 sends 3;"
+            + "beacon c every 9 listens 1 sends 2;beacon d every 6 listens 3 sends 2;beacon e every 5;"
+            + "beacon f every 4 listens 1 sends 1;beacon g every 6 listens 3 sends 2;near b a;near c b;near d b;near e a;"
+            + "near e c;near f a;near f b;near f d;near f e;near g a;near g c;near g e;",
+            "seed 573;beacon a every 6;beacon b every 7 listens 5 sends 1;beacon c every 8 listens 1 sends 3;"
+            + "beacon d every 13 listens 5 sends 3;beacon e every 14 listens 5 sends 1;"
+            + "beacon f every 7 listens 2 sends 3;beacon g every 8 listens 2 sends 3;near b a;near c a;near c b;"
+            + "near d b;near e a;near f a;near f e;near g b;near g c;near g e;"};
+        for (String text : texts) {
+            int[] best = {0, 0, 0};
+            for (int k = 0; k < 3; k++) {
+                int fewest = Integer.MAX_VALUE;
+                for (int at = 0; at < Check.of(text).beacon(0, 0); at++) {
+                    RadioBeacons x = Check.of(text);
+                    x.setAt(0, at);
+                    Check.pass(x, 99 + k);
+                    best[k] = x.setting(7) < fewest ? at : best[k];
+                    fewest = Math.min(fewest, x.setting(7));
+                }
+            }
+            Check.same("34: in 100 slots", best[1], Check.of(text).bestAt(0));
+            Check.same("34: not in 99 or 101", true, best[0] != best[1] && best[1] != best[2]);
+        }
+    }
+
+    /** The period, the greatest one of several, with which the most go well in some slots. */
+    private static int bestPeriod(String text, int slots) {
         int best = RadioBeacons.NONE;
         int most = -1;
-        for (int period = Math.max(2, x.beacon(0, 1) + 1); period <= 99; period++) {
-            RadioBeacons y = Check.of(text);
-            y.setEvery(0, period);
-            int well = y.run(99) + y.run(1);
-            if (well >= most) {
-                best = period;
-                most = well;
-            }
+        for (int period = Math.max(2, Check.of(text).beacon(0, 1) + 1); period <= 99; period++) {
+            RadioBeacons x = Check.of(text);
+            x.setEvery(0, period);
+            Check.pass(x, slots);
+            best = x.setting(5) >= most ? period : best;
+            most = Math.max(most, x.setting(5));
         }
-        Check.same("35: tried one by one, " + text, due, best);
-        Check.same("35: " + text, due, x.bestEvery(0));
+        return best;
+    }
+
+    private static void bestEvery(String text, int due) {
+        Check.same("35: tried one by one, " + text, due, bestPeriod(text, 100));
+        Check.same("35: " + text, due, Check.of(text).bestEvery(0));
+    }
+
+    private static void bestEveryIn100Slots() {
+        String[] texts = {
+            "seed 22;beacon a every 9;beacon b every 3;beacon c every 13 listens 5;near a c;near b c;",
+            "seed 75;beacon a every 9;beacon b every 2;beacon c every 12 listens 5;near a c;near b c;",
+            "seed 58;beacon a every 9;beacon b every 3;beacon c every 2 listens 5;near a c;near b c;",
+        };
+        for (String text : texts) {
+            int best = bestPeriod(text, 100);
+            Check.same("35: in 100 slots", best, Check.of(text).bestEvery(0));
+            Check.same("35: not in 99 or 101", true, bestPeriod(text, 99) != best && best != bestPeriod(text, 101));
+            Check.same("35: neither the least nor the greatest", true, best > 2 && best < 99);
+        }
     }
 
     private static String hearer(int at, int period) {

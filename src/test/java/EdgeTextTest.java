@@ -24,6 +24,7 @@ final class EdgeTextTest {
         seeds();
         triesAndMemories();
         onceAnywhere();
+        onceInEachText();
         withoutIt();
         beacons();
         names();
@@ -337,6 +338,32 @@ final class EdgeTextTest {
                 flaw(all + second.substring(0, second.indexOf(' ')) + "1000;", 3, all.length());
             }
             flaw(four[first] + four[first], 3, four[first].length());
+        }
+    }
+
+    /** What one text told once may stand in the next one, also behind an error; and nothing of it is left. */
+    private static void onceInEachText() {
+        String text = "costs 2 2 2 2;seed 9;tries 9;memory 9;beacon a every 9 at 1;beacon b every 9 at 2;near a b;";
+        RadioBeacons x = right(text);
+        String due = Whole.seen(x);
+        for (int k = 0; k < 3; k++) {
+            x.run(50);
+            x.stateIn(0, 27);
+            Check.fill(x, text + "seed 9;");
+            Check.argument("4: twice in one text", () -> x.readText());
+            Check.fill(x, text);
+            Check.same("4: in each text", 2, x.readText());
+            Check.same("4: replaces all that there is", due, Whole.seen(x));
+        }
+        for (String before : new String[] {Scenes.PAIR, Scenes.HIDDEN, Scenes.TWINS}) {
+            for (int slots = 0; slots <= 41; slots++) {
+                // what was looked at ahead, in all states, is not left in what is read
+                RadioBeacons y = Check.of(before);
+                y.stateIn(0, slots);
+                Check.fill(y, text);
+                y.readText();
+                Check.same("4: replaces all that was seen ahead in " + slots, due, Whole.seen(y));
+            }
         }
     }
 
