@@ -132,6 +132,10 @@ final class EdgeAheadTest {
         for (int k = 0; k < times.length; k++) {
             Check.same("30: at " + times[k], due[k], aKnowsB(times[k]).allKnownIn());
         }
+        // the first one is the last to know, and the last one is
+        Check.same("30: each beacon", 13, Check.of(Scenes.PAIR).allKnownIn());
+        Check.same("30: each beacon, turned round", 13, Check.of("beacon b every 10 at 3 listens 3 sends 1;"
+                + "beacon a every 10 at 1 listens 2 sends 2;near a b;").allKnownIn());
         Check.same("30: without beacons", 0, new RadioBeacons().allKnownIn());
         Check.same("30: without any near", 0, Check.of("beacon a every 9;beacon b every 9;").allKnownIn());
         RadioBeacons x = Check.of("beacon a every 9 energy 1;beacon b every 9 energy 1;near a b;");

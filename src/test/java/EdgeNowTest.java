@@ -17,6 +17,7 @@ final class EdgeNowTest {
         lettersOfAnyIndex();
         heardLast();
         drainAtTimeZero();
+        drainOfNoneToEight();
         knowledgeWithoutPairs();
         whyInAllStates();
         whyAsItIsNow();
@@ -215,6 +216,22 @@ final class EdgeNowTest {
         RadioBeacons y = Check.of(FREE + "beacon a every 9;");
         y.run(9);
         Check.same("15: nothing lost", 0.0f, y.drain());
+    }
+
+    private static void drainOfNoneToEight() {
+        RadioBeacons x = new RadioBeacons();
+        // fewer beacons than in the text before: of those that are there no more nothing counts
+        for (int count : new int[] {8, 7, 1, 0, 3, 8}) {
+            StringBuilder s = new StringBuilder("costs 10 0 0 0;");
+            for (int k = 0; k < count; k++) {
+                s.append("beacon ").append((char) ('a' + k)).append(" every 99 at 98;");
+            }
+            Check.fill(x, s.toString());
+            x.readText();
+            Check.same("15: at time 0, of " + count, 0.0f, x.drain());
+            x.run(3);
+            Check.same("15: of all " + count, 10.0f * count, x.drain());
+        }
     }
 
     private static void knowledgeWithoutPairs() {

@@ -23,6 +23,7 @@ final class EdgeScriptTest {
         thirtyCommandsWithRepeats();
         fullBuffers();
         namesThatNoBeaconHas();
+        wordsOfTheLanguage();
         endsTooEarly();
         theFirstErrorIsReported();
         theLowestCode();
@@ -307,6 +308,21 @@ final class EdgeScriptTest {
         String long8 = "beacon aaaaaaaa every 9;beacon aaaaaaab every 9;";
         RadioBeacons x = done(long8, "wake aaaaaaab;", 1);
         Check.same("5: names of eight letters", "01", x.beacon(0, 5) + "" + x.beacon(1, 5));
+    }
+
+    private static void wordsOfTheLanguage() {
+        String[] words = {"run", "wake", "every", "at", "charge", "near", "far", "repeat"};
+        String[] behind = {" 1;", " a;", " a 9;", " a 1;", " a 1;", " a b;", " a b;", " 1();"};
+        for (int k = 0; k < words.length; k++) {
+            String word = words[k];
+            Check.same("5: " + word, true, Check.script(Check.of(TWO), word + behind[k]) >= 0);
+            for (int i = 0; i < word.length(); i++) {
+                flaw(word.substring(0, i) + "z" + word.substring(i + 1) + behind[k], 1, 0);
+                flaw(word.substring(0, i) + word.substring(i + 1) + behind[k], 1, 0);
+                flaw(word.substring(0, i) + "z" + word.substring(i) + behind[k], 1, 0);
+            }
+            flaw(word + "z" + behind[k], 1, 0);
+        }
     }
 
     private static void endsTooEarly() {

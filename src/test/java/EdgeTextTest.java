@@ -16,6 +16,7 @@ final class EdgeTextTest {
         truncating();
         nothingThereAtAll();
         words();
+        wordsOfTheLanguage();
         numbers();
         gaps();
         sideBySide();
@@ -192,6 +193,24 @@ final class EdgeTextTest {
                 + "near near at;near at every;near every near;").setting(0));
         Check.same("terms 1: any word is a NAME", 3, right("beacon listens every 9 listens 2;beacon sends every 9 sends 2;"
                 + "beacon energy every 9 energy 2;near sends energy;").setting(0));
+    }
+
+    /** Words that differ from those of the language in one letter, one letter more or one letter less. */
+    private static void wordsOfTheLanguage() {
+        String[] ahead = {"", "", "", "", "", "beacon a ", "beacon a every 9 ", "beacon a every 9 ", "beacon a every 9 ",
+            "beacon a every 9 ", "beacon a every 9;beacon b every 9;"};
+        String[] words = {"costs", "seed", "tries", "memory", "beacon", "every", "at", "listens", "sends", "energy", "near"};
+        String[] behind = {" 1 1 1 1;", " 1;", " 1;", " 1;", " a every 9;", " 9;", " 1;", " 1;", " 1;", " 1;", " a b;"};
+        for (int k = 0; k < words.length; k++) {
+            String word = words[k];
+            right(ahead[k] + word + behind[k]);
+            for (int i = 0; i < word.length(); i++) {
+                flaw(ahead[k] + word.substring(0, i) + "z" + word.substring(i + 1) + behind[k], 1, ahead[k].length());
+                flaw(ahead[k] + word.substring(0, i) + word.substring(i + 1) + behind[k], 1, ahead[k].length());
+                flaw(ahead[k] + word.substring(0, i) + "z" + word.substring(i) + behind[k], 1, ahead[k].length());
+            }
+            flaw(ahead[k] + word + "z" + behind[k], 1, ahead[k].length());
+        }
     }
 
     private static void numbers() {
