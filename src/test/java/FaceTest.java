@@ -65,6 +65,11 @@ final class FaceTest {
             }
         }
         Check.same("the public methods", due, got);
+        TreeSet<String> face = namesOfTheFace();
+        for (Method m : RadioBeacons.class.getDeclaredMethods()) {
+            boolean isPrivate = Modifier.isPrivate(m.getModifiers());
+            Check.same("rule 1: no name of the face, " + m, false, isPrivate && face.contains(m.getName()));
+        }
         for (Field f : RadioBeacons.class.getDeclaredFields()) {
             if (!Modifier.isPrivate(f.getModifiers())) {
                 open.add(f.toString());
@@ -78,13 +83,18 @@ final class FaceTest {
         Check.same("no package", "", RadioBeacons.class.getPackageName());
     }
 
-    private static void classesInside() {
+    private static TreeSet<String> namesOfTheFace() {
         TreeSet<String> face = new TreeSet<>();
         for (Method m : RadioBeacons.class.getDeclaredMethods()) {
             if (Modifier.isPublic(m.getModifiers())) {
                 face.add(m.getName());
             }
         }
+        return face;
+    }
+
+    private static void classesInside() {
+        TreeSet<String> face = namesOfTheFace();
         Class<?>[] inside = RadioBeacons.class.getDeclaredClasses();
         Check.same("rule 11: some twelve classes", true, inside.length < 12);
         for (Class<?> c : inside) {
